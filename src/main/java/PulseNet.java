@@ -324,7 +324,7 @@ public final class PulseNet {
             int cluster = 1 << first;
             for (int turn = 0; turn < net.nodes; turn++) {
                 int fresh = net.around(cluster) & free & ~cluster;
-                if (fresh == 0 || Integer.bitCount(fresh) < (k - 1) * Integer.bitCount(cluster)) {
+                if (Integer.bitCount(fresh) < (k - 1) * Integer.bitCount(cluster)) {
                     return cluster;
                 }
                 cluster |= fresh;
@@ -487,7 +487,7 @@ public final class PulseNet {
 
     /** The letters that wait, in the order in which they were sent. */
     private static final class Pool {
-        /** Of each of the 132 directed links there wait at most a NOTE or its ACK, two SAFEs and one letter of a tree. */
+        /** For each end of a link there wait at most a NOTE or its ACK, two SAFEs and one letter of a tree. */
         private static final int ROOM = 4 * MOST_NODES * (MOST_NODES - 1);
 
         int size;

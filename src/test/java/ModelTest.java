@@ -9,7 +9,7 @@ import java.util.TreeSet;
 
 /** Random runs of calls, each answer held against a second reading of the document, written with sets and maps. */
 public final class ModelTest {
-  private static final int RUNS = 1500, CALLS = 510;
+  private static final int RUNS = 800, CALLS = 510;
   private static int wrong = 0;
 
   public static void main(String[] args) {
