@@ -1,20 +1,5 @@
 /** Each promise of the document, with ordinary inputs, edges and wrong inputs; the answers are worked out by hand. */
-public final class PromiseTest {
-  private static final int BAD = PulseNet.BAD, NONE = PulseNet.NONE, NOT_YET = PulseNet.NOT_YET;
-  private static final int WAVES = 0, GREATEST = 1, CHOICE = 2, LENGTHS = 3;
-  private static final int ALL = 0, TREE = 1, CLUSTERS = 2;
-  private static final int NOTE = 0, ACK = 1, SAFE = 2, READY = 3, GO = 4, FIRM = 5, DONE = 6;
-  private static final int LEAST = Integer.MIN_VALUE, MOST = Integer.MAX_VALUE;
-  private static int wrong = 0;
-  private static String promise = "";
-
-  private static void due(String call, int got, int want) {
-    if (got != want) {
-      wrong++;
-      System.out.println(promise + ": " + call + " answered " + got + ", due is " + want);
-    }
-  }
-
+public final class PromiseTest extends Check {
   public static void main(String[] args) {
     newObject();
     begin();
@@ -47,60 +32,11 @@ public final class PromiseTest {
     clusterGrowth();
     fullNet();
     longLine();
-    System.out.println(wrong == 0 ? "all answers are as due" : wrong + " answers are not as due");
-    if (wrong != 0) {
-      System.exit(1);
-    }
-  }
-
-  /** A net with the links given as ends and length, three numbers each. */
-  private static PulseNet net(int n, int... links) {
-    PulseNet x = new PulseNet();
-    due("begin " + n, x.begin(n), 0);
-    for (int i = 0; i + 2 < links.length; i += 3) {
-      due("link", x.link(links[i], links[i + 1], links[i + 2]), i / 3 + 1);
-    }
-    return x;
-  }
-
-  private static PulseNet line(int n) {
-    PulseNet x = net(n);
-    for (int i = 1; i < n; i++) {
-      x.link(i - 1, i, 1);
-    }
-    return x;
-  }
-
-  private static void marks(PulseNet x, int... marks) {
-    for (int i = 0; i < marks.length; i++) {
-      x.mark(i, marks[i]);
-    }
-  }
-
-  /** What waits: kind, from, to, round and number of each letter, five numbers each. */
-  private static void pool(PulseNet x, int... want) {
-    due("count(2)", x.count(2), want.length / 5);
-    for (int i = 0; i < want.length; i++) {
-      due("letter(" + i / 5 + ", " + i % 5 + ")", x.letter(i / 5, i % 5), want[i]);
-    }
-  }
-
-  private static void all(String call, PulseNet x, int what, int... want) {
-    for (int i = 0; i < want.length; i++) {
-      due(call + " told(" + i + ", " + what + ")", x.told(i, what), want[i]);
-    }
-  }
-
-  /** The values of all nodes behind round r, done and in step. */
-  private static void behind(PulseNet x, int r, int... want) {
-    for (int i = 0; i < want.length; i++) {
-      due("past(" + i + ", " + r + ")", x.past(i, r), want[i]);
-      due("inStep(" + i + ", " + r + ")", x.inStep(i, r), want[i]);
-    }
+    end();
   }
 
   private static void newObject() {
-    promise = "promise 1";
+    about("promise 1");
     PulseNet x = new PulseNet();
     due("count(0)", x.count(0), 1);
     due("count(1)", x.count(1), 0);
@@ -123,7 +59,7 @@ public final class PromiseTest {
   }
 
   private static void begin() {
-    promise = "promise 2";
+    about("promise 2");
     PulseNet x = line(3);
     marks(x, 4, 5, 6);
     x.start(GREATEST, ALL, 0, 2, 3);
@@ -145,7 +81,7 @@ public final class PromiseTest {
   }
 
   private static void link() {
-    promise = "promise 3";
+    about("promise 3");
     PulseNet x = net(4);
     int[][] bad = {{0, 0, 1}, {0, 4, 1}, {4, 0, 1}, {-1, 0, 1}, {0, -1, 1}, {0, 1, 0}, {0, 1, 10}, {0, 1, -1},
         {MOST, 0, 1}, {0, LEAST, 1}, {0, 1, MOST}};
@@ -170,7 +106,7 @@ public final class PromiseTest {
   }
 
   private static void mark() {
-    promise = "promise 4";
+    about("promise 4");
     PulseNet x = line(2);
     due("mark(0, 99)", x.mark(0, 99), 0);
     due("mark(0, 0)", x.mark(0, 0), 99);
@@ -186,7 +122,7 @@ public final class PromiseTest {
   }
 
   private static void startRefuses() {
-    promise = "promise 5";
+    about("promise 5");
     PulseNet x = line(3);
     due("start", x.start(WAVES, TREE, 1, 0, 3), 4);
     int[][] bad = {{-1, 0, 0, 2, 3}, {4, 0, 0, 2, 3}, {0, -1, 0, 2, 3}, {0, 3, 0, 2, 3}, {0, 0, -1, 2, 3},
@@ -208,7 +144,7 @@ public final class PromiseTest {
   }
 
   private static void startAnswers() {
-    promise = "promise 5";
+    about("promise 5");
     PulseNet x = line(3);
     for (int k : new int[] {LEAST, -1, 0, 1, 9, MOST}) {
       due("K is of no meaning", x.start(WAVES, ALL, 0, k, 20), 4);
@@ -225,7 +161,7 @@ public final class PromiseTest {
   }
 
   private static void comeWithAll() {
-    promise = "promise 6, ALL";
+    about("promise 6, ALL");
     PulseNet x = line(2);
     due("start", x.start(WAVES, ALL, 0, 0, 2), 2);
     pool(x, NOTE, 0, 1, 1, 1, SAFE, 1, 0, 1, 0);
@@ -256,7 +192,7 @@ public final class PromiseTest {
   }
 
   private static void comeAlongTree() {
-    promise = "promise 6, TREE";
+    about("promise 6, TREE");
     PulseNet x = line(3);
     due("start", x.start(WAVES, TREE, 0, 0, 2), 2);
     pool(x, NOTE, 0, 1, 1, 1, READY, 2, 1, 1, 0);
@@ -287,7 +223,7 @@ public final class PromiseTest {
   }
 
   private static void comeInClusters() {
-    promise = "promise 6, CLUSTERS";
+    about("promise 6, CLUSTERS");
     PulseNet x = line(4);
     due("start", x.start(WAVES, CLUSTERS, 0, 2, 2), 3);
     pool(x, NOTE, 0, 1, 1, 1, READY, 1, 0, 1, 0, READY, 3, 2, 1, 0);
@@ -319,7 +255,7 @@ public final class PromiseTest {
   }
 
   private static void comeRefuses() {
-    promise = "promise 6";
+    about("promise 6");
     PulseNet x = line(2);
     due("nothing was started", x.come(0), BAD);
     x.start(GREATEST, ALL, 0, 0, 1);
@@ -333,7 +269,7 @@ public final class PromiseTest {
 
   /** A twin to which the same letters come one by one, by the rule for the seed. */
   private static void flowOrder() {
-    promise = "promise 7";
+    about("promise 7");
     for (int seed : new int[] {0, 1, 77, 69069, MOST}) {
       PulseNet x = line(12);
       PulseNet twin = line(12);
@@ -356,7 +292,7 @@ public final class PromiseTest {
   }
 
   private static void flowEdges() {
-    promise = "promise 7";
+    about("promise 7");
     PulseNet x = line(2);
     due("nothing was started, so nothing waits", x.flow(5, 5), 0);
     due("flow(5, -1)", x.flow(5, -1), BAD);
@@ -374,7 +310,7 @@ public final class PromiseTest {
   }
 
   private static void toldOfTrees() {
-    promise = "promise 8";
+    about("promise 8");
     PulseNet x = net(5, 0, 1, 1, 0, 2, 1, 1, 3, 1, 2, 3, 1, 3, 4, 1, 1, 2, 1);
     x.start(GREATEST, ALL, 4, 0, 2);
     all("upper", x, 5, NONE, NONE, NONE, NONE, NONE);
@@ -396,7 +332,7 @@ public final class PromiseTest {
 
   /** Node 4 has the neighbour 1 on level 1 too, but in the other cluster: its upper is 3. */
   private static void toldOfClusters() {
-    promise = "promise 8";
+    about("promise 8");
     PulseNet x = net(6, 0, 1, 1, 1, 4, 1, 2, 3, 1, 3, 4, 1, 3, 5, 1);
     x.start(WAVES, CLUSTERS, 5, 2, 2);
     all("leader", x, 6, 0, 0, 2, 2, 2, 2);
@@ -406,7 +342,7 @@ public final class PromiseTest {
   }
 
   private static void toldRefuses() {
-    promise = "promise 8";
+    about("promise 8");
     PulseNet x = line(3);
     for (int what = 0; what < 7; what++) {
       due("nothing was started", x.told(0, what), BAD);
@@ -423,7 +359,7 @@ public final class PromiseTest {
   }
 
   private static void waves() {
-    promise = "promise 9, WAVES";
+    about("promise 9, WAVES");
     for (int way = ALL; way <= CLUSTERS; way++) {
       PulseNet x = net(5, 0, 1, 9, 0, 2, 1, 1, 3, 1, 2, 3, 1, 3, 4, 1);
       x.start(WAVES, way, 4, 2, 4);
@@ -438,7 +374,7 @@ public final class PromiseTest {
   }
 
   private static void greatest() {
-    promise = "promise 9, GREATEST";
+    about("promise 9, GREATEST");
     for (int way = ALL; way <= CLUSTERS; way++) {
       PulseNet x = net(5, 0, 1, 1, 0, 2, 1, 0, 3, 1, 3, 4, 1);
       marks(x, 5, 6, 9, 9, 20);
@@ -458,7 +394,7 @@ public final class PromiseTest {
   }
 
   private static void choice() {
-    promise = "promise 9, CHOICE";
+    about("promise 9, CHOICE");
     for (int way = ALL; way <= CLUSTERS; way++) {
       PulseNet x = line(3);
       marks(x, 5, 5, 5);
@@ -491,7 +427,7 @@ public final class PromiseTest {
   }
 
   private static void choiceOneByOne() {
-    promise = "promise 9, CHOICE";
+    about("promise 9, CHOICE");
     for (int way = ALL; way <= CLUSTERS; way++) {
       PulseNet x = line(5);
       marks(x, 1, 2, 3, 4, 5);
@@ -508,7 +444,7 @@ public final class PromiseTest {
   }
 
   private static void lengths() {
-    promise = "promise 9, LENGTHS";
+    about("promise 9, LENGTHS");
     for (int way = ALL; way <= CLUSTERS; way++) {
       PulseNet x = net(5, 0, 1, 9, 0, 2, 1, 2, 1, 1, 1, 3, 4, 2, 3, 5, 0, 4, 2, 2, 4, 1);
       x.start(LENGTHS, way, 0, 2, 5);
@@ -528,7 +464,7 @@ public final class PromiseTest {
   }
 
   private static void past() {
-    promise = "promise 9";
+    about("promise 9");
     PulseNet x = line(3);
     due("nothing was started", x.past(0, 0), BAD);
     x.start(LENGTHS, ALL, 0, 0, 4);
@@ -549,7 +485,7 @@ public final class PromiseTest {
   }
 
   private static void inStep() {
-    promise = "promise 10";
+    about("promise 10");
     PulseNet x = line(3);
     due("nothing was started", x.inStep(0, 0), BAD);
     x.start(LENGTHS, ALL, 0, 0, 4);
@@ -568,7 +504,7 @@ public final class PromiseTest {
   }
 
   private static void differ() {
-    promise = "promise 11";
+    about("promise 11");
     PulseNet x = line(4);
     due("nothing was started", x.differ(), BAD);
     marks(x, 3, 1, 4, 1);
@@ -586,7 +522,7 @@ public final class PromiseTest {
   }
 
   private static void letter() {
-    promise = "promise 12";
+    about("promise 12");
     PulseNet x = line(2);
     due("nothing was started", x.letter(0, 0), BAD);
     marks(x, 8, 99);
@@ -612,7 +548,7 @@ public final class PromiseTest {
   }
 
   private static void countOfAll() {
-    promise = "promise 13";
+    about("promise 13");
     PulseNet x = line(3);
     x.start(WAVES, ALL, 0, 0, 3);
     int[] first = {3, 2, 4, 1, 3, 1, 1, 0, 1, 0};
@@ -633,7 +569,7 @@ public final class PromiseTest {
   }
 
   private static void countRefuses() {
-    promise = "promise 13";
+    about("promise 13");
     PulseNet x = line(3);
     for (int what : new int[] {-1, 2, 3, 4, 5, 6, 7, 8, 9, 10, LEAST, MOST}) {
       due("nothing was started, count(" + what + ")", x.count(what), BAD);
@@ -648,7 +584,7 @@ public final class PromiseTest {
 
   /** Clusters 0, 1, 2 and 3, 4: the link 1 - 4 is chosen before 2 - 3, as its lesser end is less. */
   private static void chosenByLesserEnd() {
-    promise = "chosen links";
+    about("chosen links");
     PulseNet x = net(5, 0, 1, 1, 0, 2, 1, 2, 3, 1, 1, 4, 1, 3, 4, 1);
     x.start(WAVES, CLUSTERS, 3, 3, 1);
     all("leader", x, 6, 0, 0, 0, 3, 4);
@@ -662,7 +598,7 @@ public final class PromiseTest {
 
   /** Clusters 0, 1, 2 and 3, 4, 5: the links 2 - 4 and 2 - 5 have the same lesser end. */
   private static void chosenByGreaterEnd() {
-    promise = "chosen links";
+    about("chosen links");
     PulseNet x = net(6, 0, 1, 1, 0, 2, 1, 2, 5, 1, 2, 4, 1, 3, 5, 1, 3, 4, 1);
     x.start(WAVES, CLUSTERS, 3, 3, 1);
     all("leader", x, 6, 0, 0, 0, 3, 3, 3);
@@ -686,7 +622,7 @@ public final class PromiseTest {
 
   /** A star with five ends: they come for K 6, as they are five times one, but not for K 7. */
   private static void clusterGrowth() {
-    promise = "clusters";
+    about("clusters");
     PulseNet x = net(6, 0, 1, 1, 0, 2, 1, 0, 3, 1, 0, 4, 1, 0, 5, 1);
     x.start(GREATEST, CLUSTERS, 0, 6, 2);
     due("count(8)", x.count(8), 1);
@@ -705,7 +641,7 @@ public final class PromiseTest {
 
   /** All 66 links and all 20 rounds: as many letters as there can be, none of which may be lost. */
   private static void fullNet() {
-    promise = "a full net";
+    about("a full net");
     PulseNet x = net(12);
     for (int a = 0; a < 12; a++) {
       for (int b = a + 1; b < 12; b++) {
@@ -730,7 +666,7 @@ public final class PromiseTest {
   }
 
   private static void longLine() {
-    promise = "a long line";
+    about("a long line");
     PulseNet x = line(12);
     for (int way = ALL; way <= CLUSTERS; way++) {
       for (int seed = 0; seed < 10; seed++) {
