@@ -22,6 +22,48 @@ public final class ModelTest {
     }
   }
 
+  /** In which order letters come: any, the last first, or some of them as late as there are others. */
+  private static final class Order {
+    final Random random;
+    final Model model;
+    final int way;
+    final int late;
+
+    Order(Random random, Model model) {
+      this.random = random;
+      this.model = model;
+      this.way = random.nextInt(7);
+      this.late = random.nextInt(way == 4 ? 7 : model.n);
+    }
+
+    int next() {
+      int waits = model.size();
+      if (waits == 0) {
+        return 0;
+      }
+      if (way < 2) {
+        return way == 0 ? waits - 1 : random.nextInt(waits);
+      }
+      List<Integer> early = new ArrayList<>();
+      for (int i = 0; i < waits; i++) {
+        if (!isLate(model.pool.get(i))) {
+          early.add(i);
+        }
+      }
+      return early.isEmpty() ? random.nextInt(waits) : early.get(random.nextInt(early.size()));
+    }
+
+    private boolean isLate(int[] letter) {
+      switch (way) {
+        case 2: return letter[2] == late;
+        case 3: return letter[1] == late;
+        case 4: return letter[0] == late;
+        case 5: return letter[3] < model.greatest();
+        default: return letter[3] > model.least();
+      }
+    }
+  }
+
   /** One run: calls of the class and of the model side by side. */
   private static final class Driver {
     final int run;
@@ -43,9 +85,9 @@ public final class ModelTest {
         disturb(6);
         startOne();
         int turns = 5 + random.nextInt(60);
-        boolean last = random.nextBoolean();
+        Order order = new Order(random, model);
         for (int t = 0; t < turns && calls < CALLS - 40; t++) {
-          move(last);
+          move(order);
           look(1 + random.nextInt(3));
         }
         look(10);
@@ -106,13 +148,13 @@ public final class ModelTest {
           1 + random.nextInt(random.nextBoolean() ? 20 : 5));
     }
 
-    void move(boolean last) {
+    void move(Order order) {
       int waits = model.size();
       switch (random.nextInt(6)) {
         case 0: flow(random.nextInt(40), random.nextInt(Integer.MAX_VALUE)); break;
         case 1: flow(pick(new int[] {0, 3000, 500, -1, 3001}), pick(new int[] {0, 1, 77, Integer.MAX_VALUE, -1, 5})); break;
         case 2: come(pick(new int[] {-1, waits, waits + 1, 0, Integer.MIN_VALUE, Integer.MAX_VALUE})); break;
-        default: come(waits == 0 ? 0 : last ? waits - 1 : random.nextInt(waits)); break;
+        default: come(order.next()); break;
       }
     }
 
@@ -176,6 +218,10 @@ public final class ModelTest {
     int[] sent = new int[7];
 
     int size() { return on ? pool.size() : 0; }
+
+    int greatest() { return java.util.Arrays.stream(round, 0, n).max().orElse(0); }
+
+    int least() { return java.util.Arrays.stream(round, 0, n).min().orElse(0); }
 
     boolean node(int i) { return i >= 0 && i < n; }
 
